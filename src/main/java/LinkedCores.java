@@ -353,6 +353,9 @@ public final class LinkedCores {
         static final int AMPERSAND = 66;
         private static final String SINGLES = "!?,:()[]=<>+-*/\\&";
 
+        /** A name's signs, behind one that is none. */
+        private static final String NAME_SIGNS = " abcdefghijklmnopqrstuvwxyz0123456789.";
+        static final int MOST_NUMBER = 2147483647;
         private static final int MOST_LEVEL = 15;
         /** The level of a line at which nothing can stand. */
         private static final int ODD = -2;
@@ -428,7 +431,7 @@ public final class LinkedCores {
                 return;
             }
             int first = sign(at);
-            if (small(first)) {
+            if (first >= 'a' && first <= 'z') {
                 readName();
             } else if (capital(first)) {
                 readKeyword();
@@ -437,10 +440,6 @@ public final class LinkedCores {
             } else {
                 readSign(first);
             }
-        }
-
-        private static boolean small(int c) {
-            return c >= 'a' && c <= 'z';
         }
 
         private static boolean capital(int c) {
@@ -454,24 +453,17 @@ public final class LinkedCores {
         private void readName() {
             int first = at;
             key = 0;
-            while (at < stop && keyOf(sign(at)) != 0) {
-                key = key * 64 + keyOf(sign(at));
+            while (at < stop && NAME_SIGNS.indexOf((char) sign(at)) > 0) {
+                key = key * 64 + NAME_SIGNS.indexOf((char) sign(at));
                 at++;
             }
             token = at - first > 10 ? BAD : NAME;
         }
 
-        private static int keyOf(int c) {
-            if (small(c)) {
-                return c - 'a' + 1;
-            }
-            return digit(c) ? c - '0' + 27 : c == '.' ? 37 : 0;
-        }
-
         static long keyOf(String name) {
             long sum = 0;
             for (int k = 0; k < name.length(); k++) {
-                sum = sum * 64 + keyOf(name.charAt(k));
+                sum = sum * 64 + NAME_SIGNS.indexOf(name.charAt(k));
             }
             return sum;
         }
@@ -513,7 +505,7 @@ public final class LinkedCores {
                 }
                 at++;
             }
-            token = at - first > 10 || sum > Integer.MAX_VALUE ? BAD : NUMBER;
+            token = at - first > 10 || sum > MOST_NUMBER ? BAD : NUMBER;
             number = (int) sum;
         }
 
@@ -706,7 +698,18 @@ public final class LinkedCores {
             showHost("screen", SCREEN);
             showHost("keys", KEYS);
             try {
-                readProgram();
+                in.nextLine();
+                for (int k = 0; k < MOST_SIGNS && in.level == 0 && in.token == Scanner.PROC; k++) {
+                    readProc();
+                }
+                if (in.level == 0 && (in.token == Scanner.LINK || in.token == Scanner.PLACED)) {
+                    readPlaced();
+                } else {
+                    program.roots[0] = process(0);
+                }
+                if (!in.over) {
+                    form();
+                }
             } catch (IllegalStateException found) {
                 top = null;
             }
@@ -719,7 +722,9 @@ public final class LinkedCores {
         }
 
         private void fail(int kind, int place) {
-            program.blame(kind, in.over ? NONE : in.line, in.over ? NONE : place);
+            program.kind = kind;
+            program.line = in.over ? NONE : in.line;
+            program.place = in.over ? NONE : place;
             throw new IllegalStateException("fault");
         }
 
@@ -801,21 +806,6 @@ public final class LinkedCores {
         }
 
         // the program
-
-        private void readProgram() {
-            in.nextLine();
-            for (int k = 0; k < MOST_SIGNS && in.level == 0 && in.token == Scanner.PROC; k++) {
-                readProc();
-            }
-            if (in.level == 0 && (in.token == Scanner.LINK || in.token == Scanner.PLACED)) {
-                readPlaced();
-            } else {
-                program.roots[0] = process(0);
-            }
-            if (!in.over) {
-                form();
-            }
-        }
 
         private void readProc() {
             in.next();
@@ -1058,7 +1048,7 @@ public final class LinkedCores {
             Name index = fresh(Name.CONSTANT, 1, top);
             in.next();
             expect(Scanner.EQUAL);
-            index.first = readNumber(0, Integer.MAX_VALUE);
+            index.first = readNumber(0, Scanner.MOST_NUMBER);
             expect(Scanner.FOR);
             index.count = readNumber(1, MOST_BRANCHES);
             endLine();
@@ -1209,26 +1199,24 @@ public final class LinkedCores {
                     }
                     expect(Scanner.COMMA);
                 }
-                last = append(call, last, readArgument(parameter));
+                boolean byName = parameter.kind != Name.VALUE;
+                if (in.token == Scanner.CLOSE || byName && in.token != Scanner.NAME) {
+                    fail(KIND, in.place);
+                }
+                Node argument;
+                if (parameter.kind == Name.ARRAY_PARAMETER) {
+                    argument = readArray(parameter.size);
+                } else if (parameter.kind == Name.CHANNEL_PARAMETER) {
+                    argument = readChannel();
+                } else {
+                    argument = byName ? readVariable() : expression();
+                }
+                last = append(call, last, argument);
             }
             if (last != null && in.token == Scanner.COMMA) {
                 fail(KIND, in.place);
             }
             closeBracket(Scanner.CLOSE);
-        }
-
-        private Node readArgument(Name parameter) {
-            boolean byName = parameter.kind != Name.VALUE;
-            if (in.token == Scanner.CLOSE || byName && in.token != Scanner.NAME) {
-                fail(KIND, in.place);
-            }
-            if (parameter.kind == Name.ARRAY_PARAMETER) {
-                return readArray(parameter.size);
-            }
-            if (parameter.kind == Name.CHANNEL_PARAMETER) {
-                return readChannel();
-            }
-            return byName ? readVariable() : expression();
         }
 
         private Node readArray(int size) {
@@ -1858,12 +1846,23 @@ public final class LinkedCores {
             full = false;
             base = 0;
             for (int k = 0; k < program.procCount && k < program.procs.length; k++) {
-                proc(program.procs[k]);
+                Name proc = program.procs[k];
+                if (proc != null) {
+                    proc.label = newLabel();
+                    here(proc.label);
+                    emit(AJW, -(proc.size + 3));
+                    process(proc.body);
+                    emit(AJW, proc.size + 3);
+                    operation(RET);
+                }
             }
             startLabel = newLabel();
             here(startLabel);
             process(root);
             operation(DONE);
+            for (int k = 0; k < count; k++) {
+                lengths[k] = (byte) (targets[k] == NONE ? lengthOf(operands[k]) : 1);
+            }
             for (int pass = 0; pass < PASSES && !full; pass++) {
                 if (!lengthen()) {
                     break;
@@ -1886,28 +1885,27 @@ public final class LinkedCores {
         // instructions
 
         private void emit(int function, int operand) {
-            add(function, operand, NONE, BEHIND_THIS);
-        }
-
-        private void operation(int operand) {
-            add(OPR, operand, NONE, BEHIND_THIS);
-        }
-
-        private void way(int function, int label, int origin) {
-            add(function, 0, label, origin);
-        }
-
-        private void add(int function, int operand, int target, int origin) {
             if (count >= MOST_BYTES) {
                 full = true;
                 return;
             }
             functions[count] = (byte) function;
             operands[count] = operand;
-            targets[count] = target;
-            origins[count] = origin;
-            lengths[count] = (byte) (target == NONE ? lengthOf(operand) : 1);
+            targets[count] = NONE;
             count++;
+        }
+
+        private void operation(int operand) {
+            emit(OPR, operand);
+        }
+
+        private void way(int function, int label, int origin) {
+            int k = count;
+            emit(function, 0);
+            if (k < count) {
+                targets[k] = label;
+                origins[k] = origin;
+            }
         }
 
         private int newLabel() {
@@ -2110,7 +2108,6 @@ public final class LinkedCores {
         private void operator(int token) {
             switch (token) {
                 case Scanner.PLUS: operation(ADD); break;
-                case Scanner.MINUS: operation(SUB); break;
                 case Scanner.TIMES: operation(MUL); break;
                 case Scanner.OVER: operation(DIV); break;
                 case Scanner.REST: operation(REM); break;
@@ -2118,37 +2115,27 @@ public final class LinkedCores {
                 case Scanner.SHIFT_RIGHT: operation(SHR); break;
                 case Scanner.BIT_AND: operation(AND); break;
                 case Scanner.BIT_OR: operation(OR); break;
-                default: comparison(token);
+                case Scanner.LESS:
+                case Scanner.AT_LEAST:
+                    operation(REV);
+                    operation(GT);
+                    break;
+                case Scanner.MORE:
+                case Scanner.AT_MOST:
+                    operation(GT);
+                    break;
+                default: operation(SUB);
             }
-        }
-
-        private void comparison(int token) {
-            boolean alike = token == Scanner.EQUAL || token == Scanner.UNEQUAL;
-            if (token == Scanner.LESS || token == Scanner.AT_LEAST) {
-                operation(REV);
-            }
-            operation(alike ? SUB : GT);
-            if (alike || token == Scanner.AT_MOST || token == Scanner.AT_LEAST) {
+            boolean unequal = token == Scanner.UNEQUAL;
+            if (unequal || token == Scanner.EQUAL || token == Scanner.AT_MOST || token == Scanner.AT_LEAST) {
                 emit(EQC, 0);
             }
-            if (token == Scanner.UNEQUAL) {
+            if (unequal) {
                 emit(EQC, 0);
             }
         }
 
         // processes
-
-        private void proc(Name proc) {
-            if (proc == null) {
-                return;
-            }
-            proc.label = newLabel();
-            here(proc.label);
-            emit(AJW, -(proc.size + 3));
-            process(proc.body);
-            emit(AJW, proc.size + 3);
-            operation(RET);
-        }
 
         private void process(Node p) {
             if (p == null || full) {
@@ -2779,17 +2766,20 @@ public final class LinkedCores {
 
         private void wake(int descriptor) {
             insert((descriptor & 1) == LOW ? waiting : highs, descriptor);
-            if (!runs) {
-                dispatch();
-            }
+        }
+
+        /** The process is gone or waits: who runs next is told when the byte is done. */
+        private void leave() {
+            runs = false;
+            clearRegisters();
         }
 
         private void dispatch() {
-            clearRegisters();
-            runs = waiting > 0;
-            if (!runs) {
+            if (waiting <= 0) {
                 return;
             }
+            clearRegisters();
+            runs = true;
             int descriptor = rows[0];
             waiting--;
             System.arraycopy(rows, 1, rows, 0, waiting);
@@ -2807,29 +2797,32 @@ public final class LinkedCores {
             }
         }
 
-        /** A LOW process gives way to a HIGH one that has become ready. */
+        /** Behind a byte, beat or input: who runs; a LOW process gives way to a HIGH one that has become ready. */
         void settle() {
-            if (!runs || priority != LOW || highs == 0) {
+            if (runs && (priority != LOW || highs == 0)) {
                 return;
             }
-            poke(w - 1, i);
-            kept[0] = a;
-            kept[1] = b;
-            kept[2] = c;
-            kept[3] = o;
-            aside = true;
-            insert(highs, self());
+            if (runs) {
+                poke(w - 1, i);
+                kept[0] = a;
+                kept[1] = b;
+                kept[2] = c;
+                kept[3] = o;
+                aside = true;
+                insert(highs, self());
+                leave();
+            }
             dispatch();
         }
 
         private void fail() {
             error = 1;
-            dispatch();
+            leave();
         }
 
         private void waitHere() {
             poke(w - 1, i);
-            dispatch();
+            leave();
         }
 
         private void waitAt(int channel, int v) {
@@ -2886,6 +2879,7 @@ public final class LinkedCores {
             }
             if (i < 0 || i >= code.length) {
                 fail();
+                settle();
                 return;
             }
             int now = code[i];
@@ -2901,7 +2895,15 @@ public final class LinkedCores {
             } else {
                 int operand = o;
                 o = 0;
-                perform(function, operand);
+                if (function != Coder.OPR) {
+                    perform(function, operand);
+                } else if (operand <= Coder.WSUB) {
+                    calculate(operand);
+                } else if (operand >= Coder.ALT && operand <= Coder.ALTEND) {
+                    alternate(operand);
+                } else {
+                    manage(operand);
+                }
             }
             settle();
         }
@@ -2938,26 +2940,15 @@ public final class LinkedCores {
                     dropTwo();
                     break;
                 default:
-                    operate(operand);
+                    fail();
             }
         }
 
         private void jump(int operand) {
             i += operand;
             if (priority == LOW && since >= SLICE && waiting > highs) {
-                poke(w - 1, i);
                 insert(waiting, self());
-                dispatch();
-            }
-        }
-
-        private void operate(int operation) {
-            if (operation <= Coder.WSUB) {
-                calculate(operation);
-            } else if (operation >= Coder.ALT && operation <= Coder.ALTEND) {
-                alternate(operation);
-            } else {
-                manage(operation);
+                waitHere();
             }
         }
 
@@ -3000,7 +2991,7 @@ public final class LinkedCores {
                 case Coder.STARTP: startProcess(priority); break;
                 case Coder.STARTH: startProcess(0); break;
                 case Coder.ENDP: endProcess(); break;
-                case Coder.STOPP: dispatch(); break;
+                case Coder.STOPP: leave(); break;
                 case Coder.RET:
                     i = peek(w);
                     w += 4;
@@ -3010,7 +3001,7 @@ public final class LinkedCores {
                 case Coder.LDSELF: push(self()); break;
                 case Coder.DONE:
                     done = 1;
-                    dispatch();
+                    leave();
                     break;
                 default: fail();
             }
@@ -3052,7 +3043,7 @@ public final class LinkedCores {
                 poke(frame - 3, 0);
                 wake(descriptor);
             }
-            dispatch();
+            leave();
         }
 
         private void takeFrom() {
