@@ -1722,8 +1722,11 @@ public final class LinkedCores {
 
         private void compare(Node par, Node branch, Node other) {
             for (int k = branch.from; k < branch.to && k < seen.length; k++) {
+                Node part = seen[k];
                 for (int j = branch == other ? k : other.from; j < other.to && j < seen.length; j++) {
-                    if (seen[k].name == seen[j].name && against(seen[k], seen[j], par.name)) {
+                    Node beside = seen[j];
+                    boolean both = part != null && beside != null && part.name == beside.name;
+                    if (both && against(part, beside, par.name)) {
                         blame(par.line);
                         return;
                     }
