@@ -123,6 +123,8 @@ public final class ProgramTest {
             + "LDL 1 ADC 1 STL 1 LDL 2 ADC -1 STL 2 J -17 DONE");
         Calls.code("INT x:\nSEQ i = x + (x + 1) FOR 2\n  SKIP", "LDC 0 LDC 1 LDLP 1 FILL LDL 1 LDC 1 ADD STL 4 LDL 1 LDL 4 ADD "
             + "STL 2 LDC 2 STL 3 LDL 3 LDC 0 GT CJ 9 LDL 2 ADC 1 STL 2 LDL 3 ADC -1 STL 3 J -13 DONE");
+        Calls.code("INT x:\nSEQ i = 0 FOR x - (x + 1)\n  SKIP", "LDC 0 LDC 1 LDLP 1 FILL LDC 0 STL 2 LDL 1 LDC 1 ADD STL 4 LDL 1 LDL 4 SUB "
+            + "STL 3 LDL 3 LDC 0 GT CJ 9 LDL 2 ADC 1 STL 2 LDL 3 ADC -1 STL 3 J -13 DONE");
         Calls.code("INT x:\nIF\n  x\n    SKIP\n  TRUE\n    x := 1",
             "LDC 0 LDC 1 LDLP 1 FILL LDL 1 CJ 1 J 7 LDC 1 CJ 3 LDC 1 STL 1 J 2 FAIL DONE");
         Calls.code("INT x:\nWHILE x\n  x := 0", "LDC 0 LDC 1 LDLP 1 FILL LDL 1 CJ 4 LDC 0 STL 1 J -6 DONE");

@@ -15,6 +15,8 @@ public final class ScheduleTest {
         slices();
         priorities();
         putAside();
+        asideOnce();
+        marks();
         absentEnds();
         Calls.close();
     }
@@ -406,6 +408,62 @@ public final class ScheduleTest {
         Calls.due("LOW", k.core(0, 6) & 1, 1);
         k.input(3);
         Calls.due("an input does it, too", k.core(0, 6) & 1, 0);
+    }
+
+    /** What was kept for one process is no other one's. */
+    private static void asideOnce() {
+        LinkedCores x = Calls.good("CHAN c:\nPRI PAR\n  INT x:\n  SEQ\n    keys ? x\n    screen ! x\n  PAR\n"
+            + "    WHILE TRUE\n      SKIP\n    WHILE TRUE\n      SKIP");
+        x.run(0, 200);
+        while (x.core(0, 0) == 0) {
+            x.run(0, 1);
+        }
+        int low = x.core(0, 6);
+        x.input(3);
+        while (x.core(0, 6) != low) {
+            x.run(0, 1);
+        }
+        Calls.due("kept", x.core(0, 0) != 0 ? 1 : 0, 1);
+        while (x.core(0, 6) == low) {
+            x.run(0, 1);
+        }
+        Calls.due("the other one begins with nothing", registers(x) + " " + x.core(0, 12), "0 0 0 0 0");
+    }
+
+    /** Words W - 3 that an earlier CALL left are cleared by STARTP, ENDP, and by waiting in IN or OUT. */
+    private static void marks() {
+        String dirt = "PROC dirt()\n  [40]INT a:\n  SEQ i = 0 FOR 40\n    a[i] := 2\n:\n";
+        LinkedCores x = Calls.good(dirt + "PROC fork()\n  PAR\n    SKIP\n    SKIP\n:\nSEQ\n  dirt()\n  fork()\n");
+        int w = x.processor(0, 3) - 7 - 4;
+        while (x.core(0, 4) != w) {
+            x.run(0, 1);
+        }
+        Calls.due("dirt", x.word(0, w - 3) + " " + x.word(0, w - 7) + " " + x.word(0, w - 11), "2 2 2");
+        while (x.core(0, 10) < 2) {
+            x.run(0, 1);
+        }
+        Calls.due("by STARTP", x.word(0, w - 3) + " " + x.word(0, w - 7) + " " + x.word(0, w - 11), "2 0 0");
+        while (x.core(0, 6) != 2 * (w - 8) + 1) {
+            x.run(0, 1);
+        }
+        Calls.due("not by the first ENDP", x.word(0, w - 3), 2);
+        while (x.core(0, 6) != 2 * w + 1) {
+            x.run(0, 1);
+        }
+        Calls.due("by the last ENDP", x.word(0, w - 3), 0);
+        for (String line : new String[] {"keys ? r", "l ! r", "m ? r", "c ! r", "c ? r"}) {
+            String c = line.substring(0, line.indexOf(' '));
+            boolean own = c.equals("c");
+            LinkedCores y = Calls.good(dirt + "PROC p(CHAN c, INT r)\n  c" + line.substring(line.indexOf(' ')) + "\n:\nLINK l FROM 0 TO 1:\n"
+                + "LINK m FROM 1 TO 0:\nPLACED PAR\n  PROCESSOR 0\n    CHAN c:\n    INT r:\n    SEQ\n      dirt()\n      p(" + c + ", r)\n");
+            int frame = y.processor(0, 3) - 7 - 3;
+            y.run(0, 5000);
+            int channel = own ? y.processor(0, 3) + 1 : c.equals("keys") ? 13 : c.equals("l") ? 0 : 1;
+            Calls.due("waits at " + line, y.word(0, channel), 2 * frame + 1);
+            Calls.due("cleared by " + line, y.word(0, frame - 3), 0);
+            boolean sends = line.contains("!");
+            Calls.due("value or address", y.word(0, frame - 2), sends ? 0 : y.processor(0, 3) + 2);
+        }
     }
 
     private static String registers(LinkedCores x) {
