@@ -7,6 +7,7 @@ final class Calls {
     static final int ARGUMENT = -1003;
     static final int INDEX = -1004;
     static final int UNSUPPORTED = -1005;
+    static final int MACHINE = -1006;
 
     private static final String[] FUNCTIONS = {"J", "LDLP", "PFIX", "LDNL", "LDC", "LDNLP", "NFIX", "LDL", "ADC", "CALL",
         "CJ", "AJW", "EQC", "STL", "STNL", "OPR"};
@@ -34,7 +35,8 @@ final class Calls {
         } catch (IllegalArgumentException e) {
             return ARGUMENT;
         } catch (IndexOutOfBoundsException e) {
-            return INDEX;
+            // the machine's own ones are of classes below it
+            return e.getClass() == IndexOutOfBoundsException.class ? INDEX : MACHINE;
         } catch (UnsupportedOperationException e) {
             return UNSUPPORTED;
         }

@@ -164,6 +164,7 @@ public final class FaultsTest {
         one("x := NOT x AND y", FORM, 11);
         one("x := (1 + 2", FORM, 11);
         one("x := 1)", FORM, 6);
+        one("x :=", FORM, 4);
         one("x := ", FORM, 5);
         one("x :=   ", FORM, 7);
         one("c ! ", FORM, 4);
