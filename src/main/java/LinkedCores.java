@@ -74,7 +74,9 @@ public final class LinkedCores {
     public int compile() {
         Program program = new Program();
         machine = null;
-        new Parser(program, new Scanner(text, length)).parse();
+        Scanner scanner = new Scanner(text, length);
+        scanner.scan();
+        new Parser(program, scanner).parse();
         length = 0;
         if (program.kind == 0) {
             new Layout().measure(program);
@@ -291,7 +293,7 @@ public final class LinkedCores {
         return made;
     }
 
-    /** Tokens, line by line; lines that don't count are never seen. */
+    /** The tokens of all lines that count, read ahead: what is wrong with one is found when the parser comes there. */
     private static final class Scanner {
         static final int END = 0;
         static final int BAD = 1;
@@ -362,14 +364,21 @@ public final class LinkedCores {
 
         private final byte[] text;
         private final int length;
+        private final byte[] kinds;
+        private final int[] places;
+        /** Of a number itself, of a name its key. */
+        private final long[] values;
+        private final int[] lines;
+        private final byte[] levels;
+        private int count;
+        private int now = NONE;
         private int start;
         private int stop;
         private int at;
-        private int after;
 
         /** The text's end has been reached. */
         boolean over;
-        int line = NONE;
+        int line;
         int level;
         int token;
         int place;
@@ -377,40 +386,85 @@ public final class LinkedCores {
         /** A name's signs, six bits' worth each: ten of them fit, and equal names have equal keys. */
         long key;
 
+        /** Each token has a sign of the text, each line's end the one behind it, but for the last one's. */
         Scanner(byte[] text, int length) {
+            int most = Math.max(0, length) + 1;
             this.text = text;
             this.length = length;
+            this.kinds = new byte[most];
+            this.places = new int[most];
+            this.values = new long[most];
+            this.lines = new int[most];
+            this.levels = new byte[most];
+        }
+
+        // what the parser sees: the token that is there
+
+        void next() {
+            if (token != END) {
+                now++;
+                load();
+            }
         }
 
         void nextLine() {
-            for (int k = 0; k <= length && after <= length; k++) {
-                openLine();
-                if (at < stop) {
-                    int blanks = at - start;
-                    level = blanks % 2 == 0 && blanks / 2 <= MOST_LEVEL ? blanks / 2 : ODD;
-                    next();
-                    return;
-                }
-            }
-            over = true;
-            level = NONE;
-            token = END;
+            now++;
+            load();
         }
 
-        private void openLine() {
-            line++;
-            start = after;
-            stop = start;
+        private void load() {
+            over = now < 0 || now >= count || now >= kinds.length;
+            if (over) {
+                level = NONE;
+                token = END;
+                return;
+            }
+            token = kinds[now];
+            place = places[now];
+            number = (int) values[now];
+            key = values[now];
+            line = lines[now];
+            level = levels[now];
+        }
+
+        boolean isOperator() {
+            return token >= UNEQUAL && token <= BIT_OR || token >= EQUAL && token <= REST || token == AND || token == OR;
+        }
+
+        // reading ahead
+
+        void scan() {
+            int begin = 0;
+            for (int n = 0; n <= length && begin <= length; n++) {
+                line = n;
+                begin = scanLine(begin);
+            }
+        }
+
+        /** Where the next line begins. */
+        private int scanLine(int begin) {
+            start = begin;
+            stop = begin;
             while (stop < length && sign(stop) != 10 && !(sign(stop) == '-' && sign(stop + 1) == '-')) {
                 stop++;
             }
-            after = stop;
+            int after = stop;
             while (after < length && sign(after) != 10) {
                 after++;
             }
-            after++;
             at = start;
             skipBlanks();
+            int blanks = at - start;
+            boolean counts = at < stop;
+            level = blanks % 2 == 0 && blanks / 2 <= MOST_LEVEL ? blanks / 2 : ODD;
+            for (int k = start; k < stop && at < stop; k++) {
+                scanToken();
+                skipBlanks();
+            }
+            if (counts) {
+                add(END, stop, 0);
+            }
+            return after + 1;
         }
 
         private int sign(int k) {
@@ -423,22 +477,27 @@ public final class LinkedCores {
             }
         }
 
-        void next() {
-            skipBlanks();
-            place = at - start;
-            if (at >= stop) {
-                token = END;
-                return;
+        private void add(int kind, int from, long value) {
+            if (count < kinds.length) {
+                kinds[count] = (byte) kind;
+                places[count] = from - start;
+                values[count] = value;
+                lines[count] = line;
+                levels[count] = (byte) level;
+                count++;
             }
+        }
+
+        private void scanToken() {
             int first = sign(at);
             if (first >= 'a' && first <= 'z') {
-                readName();
+                scanName();
             } else if (capital(first)) {
-                readKeyword();
+                scanKeyword();
             } else if (digit(first)) {
-                readNumber();
+                scanNumber();
             } else {
-                readSign(first);
+                scanSign(first);
             }
         }
 
@@ -450,14 +509,14 @@ public final class LinkedCores {
             return c >= '0' && c <= '9';
         }
 
-        private void readName() {
+        private void scanName() {
             int first = at;
-            key = 0;
+            long sum = 0;
             while (at < stop && NAME_SIGNS.indexOf((char) sign(at)) > 0) {
-                key = key * 64 + NAME_SIGNS.indexOf((char) sign(at));
+                sum = sum * 64 + NAME_SIGNS.indexOf((char) sign(at));
                 at++;
             }
-            token = at - first > 10 ? BAD : NAME;
+            add(at - first > 10 ? BAD : NAME, first, sum);
         }
 
         static long keyOf(String name) {
@@ -468,23 +527,24 @@ public final class LinkedCores {
             return sum;
         }
 
-        private void readKeyword() {
+        private void scanKeyword() {
             int first = at;
             while (at < stop && capital(sign(at))) {
                 at++;
             }
-            token = BAD;
+            int found = BAD;
             int word = 0;
             int kind = SEQ;
             for (int k = 0; k < KEYWORDS.length(); k++) {
                 if (KEYWORDS.charAt(k) == ' ') {
                     if (k - word == at - first && isHere(word, k, first)) {
-                        token = kind;
+                        found = kind;
                     }
                     kind++;
                     word = k + 1;
                 }
             }
+            add(found, first, 0);
         }
 
         private boolean isHere(int word, int end, int first) {
@@ -496,7 +556,7 @@ public final class LinkedCores {
             return true;
         }
 
-        private void readNumber() {
+        private void scanNumber() {
             int first = at;
             long sum = 0;
             while (at < stop && digit(sign(at))) {
@@ -505,26 +565,21 @@ public final class LinkedCores {
                 }
                 at++;
             }
-            token = at - first > 10 || sum > MOST_NUMBER ? BAD : NUMBER;
-            number = (int) sum;
+            add(at - first > 10 || sum > MOST_NUMBER ? BAD : NUMBER, first, sum);
         }
 
-        private void readSign(int first) {
+        private void scanSign(int first) {
             int second = at + 1 < stop ? sign(at + 1) : 0;
             for (int k = 0; k + 1 < PAIRS.length(); k += 2) {
                 if (PAIRS.charAt(k) == first && PAIRS.charAt(k + 1) == second) {
-                    token = BECOMES + k / 2;
+                    add(BECOMES + k / 2, at, 0);
                     at += 2;
                     return;
                 }
             }
             int single = SINGLES.indexOf((char) first);
-            token = single < 0 ? BAD : SEND + single;
+            add(single < 0 ? BAD : SEND + single, at, 0);
             at++;
-        }
-
-        boolean isOperator() {
-            return token >= UNEQUAL && token <= BIT_OR || token >= EQUAL && token <= REST || token == AND || token == OR;
         }
     }
 
@@ -734,7 +789,7 @@ public final class LinkedCores {
 
         private void expect(int token) {
             if (in.token != token) {
-                form();
+                fail(FORM, in.place);
             }
             in.next();
         }
@@ -1144,7 +1199,10 @@ public final class LinkedCores {
                 in.next();
                 return;
             }
-            guard.two = readChannel();
+            if (in.token != Scanner.NAME) {
+                form();
+            }
+            guard.two = judged(known().isChannel());
             if (in.token != Scanner.TAKE) {
                 form();
             }
@@ -1207,9 +1265,9 @@ public final class LinkedCores {
                 if (parameter.kind == Name.ARRAY_PARAMETER) {
                     argument = readArray(parameter.size);
                 } else if (parameter.kind == Name.CHANNEL_PARAMETER) {
-                    argument = readChannel();
+                    argument = judged(known().isChannel());
                 } else {
-                    argument = byName ? readVariable() : expression();
+                    argument = byName ? judged(known().isTarget()) : expression();
                 }
                 last = append(call, last, argument);
             }
@@ -1276,37 +1334,29 @@ public final class LinkedCores {
             return part;
         }
 
-        private Node readChannel() {
-            if (in.token != Scanner.NAME) {
-                form();
-            }
-            return judged(known().isChannel());
-        }
-
-        private Node readVariable() {
+        /** The V behind a ?. */
+        private Node readTarget() {
+            in.next();
             if (in.token != Scanner.NAME) {
                 form();
             }
             return judged(known().isTarget());
         }
 
-        /** The V behind a ?. */
-        private Node readTarget() {
-            in.next();
-            return readVariable();
-        }
-
         private void openBracket() {
             if (open >= MOST_OPEN) {
-                form();
+                fail(FORM, in.place);
             }
             open++;
             in.next();
         }
 
         private void closeBracket(int token) {
-            expect(token);
+            if (in.token != token) {
+                fail(FORM, in.place);
+            }
             open--;
+            in.next();
         }
 
         private Node expression() {
@@ -2830,9 +2880,10 @@ public final class LinkedCores {
 
         private void waitAt(int channel, int v) {
             poke(channel, self());
+            poke(w - 1, i);
             poke(w - 2, v);
             poke(w - 3, 0);
-            waitHere();
+            leave();
         }
 
         private static boolean isAlt(int mark) {
