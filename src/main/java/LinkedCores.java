@@ -1181,7 +1181,7 @@ public final class LinkedCores {
                 int place = in.place;
                 Node part = unjudged();
                 if (in.token == Scanner.TAKE) {
-                    judge(part, part.name.isChannel(), place);
+                    judge(part.name.isChannel(), place);
                     guard.two = part;
                     guard.three = readTarget();
                     return;
@@ -1189,7 +1189,7 @@ public final class LinkedCores {
                 if (in.token != Scanner.AMPERSAND && !in.isOperator()) {
                     form();
                 }
-                judge(part, part.name.isValue(), place);
+                judge(part.name.isValue(), place);
                 guard.one = operated(part);
             } else {
                 guard.one = expression();
@@ -1219,25 +1219,25 @@ public final class LinkedCores {
                     if (part.one != null) {
                         form();
                     }
-                    judge(part, name.kind == Name.PROCEDURE, place);
+                    judge(name.kind == Name.PROCEDURE, place);
                     p.kind = Node.CALL;
                     p.name = name;
                     readArguments(p);
                     break;
                 case Scanner.BECOMES:
-                    judge(part, name.isTarget(), place);
+                    judge(name.isTarget(), place);
                     p.kind = Node.ASSIGN;
                     in.next();
                     p.two = expression();
                     break;
                 case Scanner.SEND:
-                    judge(part, name.isChannel(), place);
+                    judge(name.isChannel(), place);
                     p.kind = Node.SEND;
                     in.next();
                     p.two = expression();
                     break;
                 case Scanner.TAKE:
-                    judge(part, name.isChannel(), place);
+                    judge(name.isChannel(), place);
                     p.kind = Node.TAKE;
                     p.two = readTarget();
                     break;
@@ -1301,21 +1301,22 @@ public final class LinkedCores {
             return part;
         }
 
-        private void judge(Node part, boolean wanted, int place) {
-            if (!wanted || part.name.isRow() != (part.one != null)) {
+        private void judge(boolean wanted, int place) {
+            if (!wanted) {
                 fail(KIND, place);
             }
         }
 
-        /** A NAME, with [ E ] if that is there, the kind of which is told by what stands behind it. */
+        /**
+         * A NAME, with [ E ] if it is a row. Whether it is for values, channels or calls is judged by what stands
+         * behind it; that a row wants a [ is known here, ahead of what is wrong with another token.
+         */
         private Node unjudged() {
             Node part = newPart(known());
             int place = in.place;
             in.next();
+            judge(part.name.isRow() == (in.token == Scanner.SQUARE), place);
             if (in.token == Scanner.SQUARE) {
-                if (!part.name.isRow()) {
-                    fail(KIND, place);
-                }
                 openBracket();
                 part.one = expression();
                 closeBracket(Scanner.UNSQUARE);
@@ -1325,13 +1326,8 @@ public final class LinkedCores {
 
         /** The same where its kind is known ahead: a name of another kind is refused at once. */
         private Node judged(boolean wanted) {
-            int place = in.place;
-            if (!wanted) {
-                fail(KIND, place);
-            }
-            Node part = unjudged();
-            judge(part, true, place);
-            return part;
+            judge(wanted, in.place);
+            return unjudged();
         }
 
         /** The V behind a ?. */

@@ -259,6 +259,13 @@ public final class FaultsTest {
         one("e ! 1", KIND, 0);
         one("e[0] := 1", KIND, 0);
         one("e[1] ! 2", 0, 0);
+        one("a", KIND, 0);
+        one("a + 1", KIND, 0);
+        one("a 0] := 1", KIND, 0);
+        one("a ;", KIND, 0);
+        one("a (", KIND, 0);
+        one("e", KIND, 0);
+        one("e FOO", KIND, 0);
         one("x + 1", FORM, 2);
         one("x", FORM, 1);
         one("q", FORM, 1);
@@ -297,6 +304,9 @@ public final class FaultsTest {
         guard("a[0] ? x", KIND, 2);
         guard("x[0] & SKIP", KIND, 2);
         guard("q & SKIP", KIND, 2);
+        guard("a", KIND, 2);
+        guard("a := 1", KIND, 2);
+        guard("e ;", KIND, 2);
         guard("q()", FORM, 3);
         guard("c ! 1", FORM, 4);
         guard("x := 1", FORM, 4);
