@@ -1181,7 +1181,7 @@ public final class LinkedCores {
                 int place = in.place;
                 Node part = unjudged();
                 if (in.token == Scanner.TAKE) {
-                    judge(part.name.isChannel(), place);
+                    judge(part, part.name.isChannel(), place);
                     guard.two = part;
                     guard.three = readTarget();
                     return;
@@ -1189,7 +1189,7 @@ public final class LinkedCores {
                 if (in.token != Scanner.AMPERSAND && !in.isOperator()) {
                     form();
                 }
-                judge(part.name.isValue(), place);
+                judge(part, part.name.isValue(), place);
                 guard.one = operated(part);
             } else {
                 guard.one = expression();
@@ -1219,25 +1219,25 @@ public final class LinkedCores {
                     if (part.one != null) {
                         form();
                     }
-                    judge(name.kind == Name.PROCEDURE, place);
+                    judge(part, name.kind == Name.PROCEDURE, place);
                     p.kind = Node.CALL;
                     p.name = name;
                     readArguments(p);
                     break;
                 case Scanner.BECOMES:
-                    judge(name.isTarget(), place);
+                    judge(part, name.isTarget(), place);
                     p.kind = Node.ASSIGN;
                     in.next();
                     p.two = expression();
                     break;
                 case Scanner.SEND:
-                    judge(name.isChannel(), place);
+                    judge(part, name.isChannel(), place);
                     p.kind = Node.SEND;
                     in.next();
                     p.two = expression();
                     break;
                 case Scanner.TAKE:
-                    judge(name.isChannel(), place);
+                    judge(part, name.isChannel(), place);
                     p.kind = Node.TAKE;
                     p.two = readTarget();
                     break;
@@ -1301,22 +1301,24 @@ public final class LinkedCores {
             return part;
         }
 
-        private void judge(boolean wanted, int place) {
-            if (!wanted) {
+        private void judge(Node part, boolean wanted, int place) {
+            if (!wanted || part.name.isRow() != (part.one != null)) {
                 fail(KIND, place);
             }
         }
 
         /**
-         * A NAME, with [ E ] if it is a row. Whether it is for values, channels or calls is judged by what stands
-         * behind it; that a row wants a [ is known here, ahead of what is wrong with another token.
+         * A NAME, with [ E ] if a [ is there. Where a PROCESS or a GUARD begins with it the caller judges it by the
+         * token behind it; a row without its [, too, so that a token there that tells nothing is FORM.
          */
         private Node unjudged() {
             Node part = newPart(known());
             int place = in.place;
             in.next();
-            judge(part.name.isRow() == (in.token == Scanner.SQUARE), place);
             if (in.token == Scanner.SQUARE) {
+                if (!part.name.isRow()) {
+                    fail(KIND, place);
+                }
                 openBracket();
                 part.one = expression();
                 closeBracket(Scanner.UNSQUARE);
@@ -1324,10 +1326,18 @@ public final class LinkedCores {
             return part;
         }
 
-        /** The same where its kind is known ahead: a name of another kind is refused at once. */
+        /**
+         * The same where its kind is known ahead: a name of another kind is refused at once, and a row by any token
+         * behind it but a [, ahead of what is wrong with that token.
+         */
         private Node judged(boolean wanted) {
-            judge(wanted, in.place);
-            return unjudged();
+            int place = in.place;
+            if (!wanted) {
+                fail(KIND, place);
+            }
+            Node part = unjudged();
+            judge(part, true, place);
+            return part;
         }
 
         /** The V behind a ?. */
