@@ -1,9 +1,8 @@
-import java.util.NoSuchElementException;
 import java.util.Random;
 
 /**
- * Any calls in any state: each answers or throws what its promise names, in the order that it names, and a call that
- * throws changes nothing. The texts are right ones that were damaged, so that all of the reader is passed.
+ * Any calls in any state: each answers or throws of itself, and a call that throws changes nothing: an object that was
+ * not asked it goes on the same way. The texts are right ones that were damaged, so that all of the reader is passed.
  */
 public final class AnyCallsTest {
     private static final String[] TEXTS = {
@@ -22,17 +21,23 @@ public final class AnyCallsTest {
         "]", "=", "+", "-", "*", "/", "\\", "&", "x", "y", "a", "c", "p", "screen", "keys", "0", "1", "9", "64", "65", "99999999999",
         "2147483648", "abcdefghijk", "FOO", "--", ";", ".", "  ", "\n", "\n  ", "[[[[[[[[[", "(((((((((", "i"};
 
+    private static int threw = 0;
+
     public static void main(String[] args) {
         Random random = new Random(20261115);
-        int threw = 0;
-        for (int k = 0; k < 4000; k++) {
+        for (int k = 0; k < 12000; k++) {
             LinkedCores x = new LinkedCores();
-            Calls.write(x, damaged(random, TEXTS[k % TEXTS.length], k / TEXTS.length % 4));
+            LinkedCores twin = new LinkedCores();
+            String text = damaged(random, TEXTS[k % TEXTS.length], k / TEXTS.length % 4);
+            Calls.write(x, text);
+            Calls.write(twin, text);
             int processors = x.compile();
             Calls.due("processors and fault", (processors == LinkedCores.NONE) == (x.fault(0) != 0) ? 1 : 0, 1);
-            for (int j = 0; j < 40; j++) {
-                threw += any(x, random) ? 1 : 0;
+            Calls.due("its twin", twin.compile(), processors);
+            for (int j = 0; j < 20; j++) {
+                any(x, twin, random);
             }
+            Calls.due("nothing was changed by what threw, in\n" + text, Calls.seen(x), Calls.seen(twin));
         }
         Calls.due("some threw", threw > 1000 ? 1 : 0, 1);
         Calls.close();
@@ -57,72 +62,42 @@ public final class AnyCallsTest {
         return random.nextInt(3) == 0 ? edges[random.nextInt(edges.length)] : random.nextInt(8);
     }
 
-    /** What is seen without changing anything. */
-    private static String seen(LinkedCores x) {
-        StringBuilder all = new StringBuilder();
-        all.append(x.put(0)).append(x.fault(0)).append(x.fault(1)).append(x.fault(2));
-        try {
-            all.append(x.outcome());
-        } catch (IllegalStateException e) {
-            return all.toString();
-        }
-        for (int p = 0; p < 6; p++) {
-            try {
-                for (int what = 0; what < 13; what++) {
-                    all.append(x.core(p, what)).append(' ');
-                }
-                for (int k = 0; k < x.processor(p, 1) + 16; k++) {
-                    all.append(x.word(p, k)).append(' ');
-                }
-            } catch (NoSuchElementException e) {
-                all.append('-');
-            }
-        }
-        for (int what = 0; what < 7; what++) {
-            all.append(x.about(what)).append(' ');
-        }
-        return all.toString();
-    }
-
-    private static boolean any(LinkedCores x, Random random) {
+    /** The twin is asked only what didn't throw. */
+    private static void any(LinkedCores x, LinkedCores twin, Random random) {
         int call = random.nextInt(19);
         int a = number(random);
         int b = number(random);
         int c = number(random);
-        String before = seen(x);
-        try {
-            ask(x, call, a, b, c);
-            return false;
-        } catch (IllegalStateException | NoSuchElementException | IllegalArgumentException | UnsupportedOperationException e) {
-            Calls.due("nothing changed by call " + call, seen(x), before);
-        } catch (IndexOutOfBoundsException e) {
-            Calls.due("thrown by the class itself", e.getClass() == IndexOutOfBoundsException.class ? 1 : 0, 1);
-            Calls.due("nothing changed by call " + call, seen(x), before);
+        int answer = Calls.of(() -> ask(x, call, a, b, c));
+        if (answer <= Calls.STATE && answer >= Calls.MACHINE) {
+            threw++;
+            Calls.due("thrown by the class itself", answer == Calls.MACHINE ? 1 : 0, 0);
+        } else {
+            Calls.due("call " + call, Calls.of(() -> ask(twin, call, a, b, c)), answer);
         }
-        return true;
     }
 
-    private static void ask(LinkedCores x, int call, int a, int b, int c) {
+    private static int ask(LinkedCores x, int call, int a, int b, int c) {
         switch (call) {
-            case 0: x.put(a); break;
-            case 1: x.end(a); break;
-            case 2: x.fault(a); break;
-            case 3: x.processor(a, b); break;
-            case 4: x.code(a, b); break;
-            case 5: x.instruction(a, b, c); break;
-            case 6: x.link(a, b); break;
-            case 7: if (a == 0) { x.begin(); } break;
-            case 8: x.input(a); break;
-            case 9: x.run(a, b); break;
-            case 10: x.beat(a); break;
-            case 11: x.rounds(a); break;
-            case 12: x.outcome(); break;
-            case 13: x.core(a, b); break;
-            case 14: x.ready(a, b); break;
-            case 15: x.word(a, b); break;
-            case 16: x.output(a); break;
-            case 17: x.about(a); break;
-            default: if (a == 1) { x.compile(); }
+            case 0: return x.put(a);
+            case 1: x.end(a); return 0;
+            case 2: return x.fault(a);
+            case 3: return x.processor(a, b);
+            case 4: return x.code(a, b);
+            case 5: return x.instruction(a, b, c);
+            case 6: return x.link(a, b);
+            case 7: if (a == 0) { x.begin(); } return 0;
+            case 8: return x.input(a);
+            case 9: return x.run(a, b);
+            case 10: return x.beat(a);
+            case 11: return x.rounds(a);
+            case 12: return x.outcome();
+            case 13: return x.core(a, b);
+            case 14: return x.ready(a, b);
+            case 15: return x.word(a, b);
+            case 16: return x.output(a);
+            case 17: return x.about(a);
+            default: return a == 1 ? x.compile() : 0;
         }
     }
 }

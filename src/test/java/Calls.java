@@ -15,6 +15,8 @@ final class Calls {
         "WSUB", "CHECK", "LDPI", "FILL", "STARTP", "STARTH", "ENDP", "STOPP", "RET", "IN", "OUT", "ALT", "ENBC", "ENBS",
         "ALTWT", "DISC", "DISS", "ALTEND", "FAIL", "LDSELF", "DONE"};
 
+    private static final int SECONDS = 240;
+
     private static int wrong = 0;
     private static int asked = 0;
 
@@ -22,6 +24,25 @@ final class Calls {
 
     interface Call {
         int answer();
+    }
+
+    interface Question {
+        boolean holds();
+    }
+
+    /** A call that doesn't end is a wrong one: no test takes that long. */
+    static {
+        Thread watch = new Thread(() -> {
+            try {
+                Thread.sleep(SECONDS * 1000L);
+            } catch (InterruptedException e) {
+                return;
+            }
+            System.out.println("no end after " + SECONDS + " seconds");
+            Runtime.getRuntime().halt(1);
+        });
+        watch.setDaemon(true);
+        watch.start();
     }
 
     /** The answer of a call, or a number that tells which exception came. */
@@ -118,6 +139,68 @@ final class Calls {
             all.append(k == 0 ? "" : " ").append(x.output(k));
         }
         return all.toString();
+    }
+
+    /** A call that must throw. */
+    static void refused(String what, int exception, Call call) {
+        due(what, of(call), exception);
+    }
+
+    /** All that is seen of an object, each call without effect: some hundred of them for a small program. */
+    static String seen(LinkedCores x) {
+        StringBuilder all = new StringBuilder();
+        all.append("signs ").append(x.put(0)).append(" fault ").append(x.fault(0)).append(' ').append(x.fault(1)).append(' ').append(x.fault(2));
+        int outcome = of(x::outcome);
+        if (outcome == STATE) {
+            return all + " no program";
+        }
+        all.append(" outcome ").append(outcome);
+        for (int p = 0; p < 6; p++) {
+            seenOf(x, p, all);
+        }
+        for (int l = 0; l < x.about(0); l++) {
+            all.append("\nlink ").append(l);
+            for (int what = 0; what < 6; what++) {
+                all.append(' ').append(x.link(l, what));
+            }
+        }
+        all.append("\nabout");
+        for (int what = 0; what < 7; what++) {
+            all.append(' ').append(x.about(what));
+        }
+        return all + "\noutputs " + outputs(x);
+    }
+
+    private static void seenOf(LinkedCores x, int p, StringBuilder all) {
+        if (of(() -> x.core(p, 6)) == ELEMENT) {
+            return;
+        }
+        all.append("\ncore ").append(p);
+        for (int what = 0; what < 13; what++) {
+            all.append(' ').append(x.core(p, what));
+        }
+        int ready = x.core(p, 9) + x.core(p, 10);
+        all.append(" ready");
+        for (int i = 0; i < ready; i++) {
+            all.append(' ').append(x.ready(p, i));
+        }
+        int words = x.processor(p, 1) + 16;
+        all.append(" words");
+        for (int k = 0; k < words; k++) {
+            all.append(' ').append(x.word(p, k));
+        }
+    }
+
+    /** A core does byte after byte until something holds: how many; it must come there. */
+    static int till(LinkedCores x, int p, Question question) {
+        for (int k = 0; k < 200; k++) {
+            if (question.holds()) {
+                return k;
+            }
+            x.run(p, 1);
+        }
+        due("it came there", question.holds() ? 1 : 0, 1);
+        return 200;
     }
 
     /** Runs to the end, with inputs given at the beginning. */

@@ -59,7 +59,7 @@ public final class ProgramTest {
     private static void below(String names, int want, String code) {
         LinkedCores x = Calls.good("PAR\n" + names + "  SKIP\n  SKIP");
         int at = 0;
-        while (x.instruction(0, at, 0) != 1) {
+        for (int k = 0; k < 99 && x.instruction(0, at, 0) != 1; k++) {
             at += x.instruction(0, at, 2);
         }
         Calls.due("LDLP", x.instruction(0, at, 1), want);

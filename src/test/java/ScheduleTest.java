@@ -101,40 +101,31 @@ public final class ScheduleTest {
         Calls.finish("[4]INT a:\nSEQ\n  PAR i = 0 FOR 4\n    a[i] := i * i\n  SEQ i = 0 FOR 4\n    screen ! a[i]", 1, "0 1 4 9");
     }
 
+    private static final String CHAIN = "LINK l FROM 0 TO 1:\nPLACED PAR\n  PROCESSOR 0\n    INT x:\n    SEQ\n      keys ? x\n"
+        + "      screen ! x\n      l ! x\n  PROCESSOR 1\n    INT y:\n    l ? y";
+
     private static void begin() {
-        LinkedCores x = Calls.good("LINK l FROM 0 TO 1:\nPLACED PAR\n  PROCESSOR 0\n    INT x:\n    SEQ\n      keys ? x\n      screen ! x\n"
-            + "      l ! x\n  PROCESSOR 1\n    INT y:\n    l ? y");
-        String fresh = snapshot(x);
+        String fresh = Calls.seen(Calls.good(CHAIN));
+        LinkedCores x = Calls.good(CHAIN);
         x.input(5);
         x.input(6);
         x.rounds(5000);
         Calls.due("done", x.outcome(), 1);
-        Calls.due("all is changed", snapshot(x).equals(fresh) ? 1 : 0, 0);
+        Calls.due("all is changed", Calls.seen(x).equals(fresh) ? 1 : 0, 0);
         x.begin();
-        Calls.due("as at the beginning", snapshot(x), fresh);
-        Calls.due("no inputs", x.input(4), 1);
-        x.rounds(20);
-        x.begin();
-        Calls.due("as at the beginning", snapshot(x), fresh);
-        for (int k = 0; k < x.processor(1, 1) + 16; k++) {
-            Calls.due("word " + k, x.word(1, k), k < 14 ? -1 : 0);
+        Calls.due("as at the beginning", Calls.seen(x), fresh);
+        LinkedCores y = Calls.good(CHAIN);
+        y.input(7);
+        y.rounds(30);
+        y.begin();
+        Calls.due("no inputs", y.input(4), 1);
+        y.rounds(20);
+        y.begin();
+        Calls.due("as at the beginning", Calls.seen(y), fresh);
+        int words = y.processor(1, 1) + 16;
+        for (int k = 0; k < words; k++) {
+            Calls.due("word " + k, y.word(1, k), k < 14 ? -1 : 0);
         }
-    }
-
-    private static String snapshot(LinkedCores x) {
-        StringBuilder all = new StringBuilder();
-        for (int p = 0; p < 2; p++) {
-            for (int what = 0; what < 13; what++) {
-                all.append(x.core(p, what)).append(' ');
-            }
-            for (int k = 0; k < x.processor(p, 1) + 16; k++) {
-                all.append(x.word(p, k)).append(' ');
-            }
-        }
-        for (int what = 0; what < 7; what++) {
-            all.append(x.about(what)).append(' ').append(what < 6 ? x.link(0, what) : 0).append(' ');
-        }
-        return all + Calls.outputs(x);
     }
 
     private static void input() {
@@ -251,18 +242,13 @@ public final class ScheduleTest {
         int sender = w - 4;
         int taker = w - 3 - 4 - 2;
         x.run(0, 5);
-        int bytes = 0;
-        while (x.word(0, w + 1) == -1 && bytes < 99) {
-            bytes += x.run(0, 1);
-        }
+        Calls.till(x, 0, () -> x.word(0, w + 1) != -1);
         Calls.due("the channel", x.word(0, w + 1), 2 * sender + 1);
         Calls.due("the value", x.word(0, sender - 2), 77);
         Calls.due("not in ALT", x.word(0, sender - 3), 0);
         Calls.due("the taker runs", x.core(0, 6), 2 * taker + 1);
         Calls.due("from its beginning", x.core(0, 0) + " " + x.core(0, 1) + " " + x.core(0, 2) + " " + x.core(0, 5) + " " + x.core(0, 12), "0 0 0 0 0");
-        while (x.word(0, w + 1) != -1 && bytes < 99) {
-            bytes += x.run(0, 1);
-        }
+        Calls.till(x, 0, () -> x.word(0, w + 1) == -1);
         Calls.due("it went over", x.word(0, taker + 1), 77);
         Calls.due("the sender is ready", x.ready(0, 0), 2 * sender + 1);
         Calls.due("the taker goes on", x.core(0, 6), 2 * taker + 1);
@@ -329,9 +315,7 @@ public final class ScheduleTest {
         int w = x.processor(0, 3);
         int one = 2 * (w - 4) + 1;
         int two = 2 * (w - 8) + 1;
-        while (x.core(0, 6) != one) {
-            x.run(0, 1);
-        }
+        Calls.till(x, 0, () -> x.core(0, 6) == one);
         Calls.due("the other one is ready", x.ready(0, 0), two);
         // a turn is LDC 1, CJ, J -4: four bytes, so the 16th J ends a slice
         Calls.due("63 bytes", x.run(0, 63), 63);
@@ -353,10 +337,7 @@ public final class ScheduleTest {
         LinkedCores x = Calls.good("PRI PAR\n  SKIP\n  SKIP");
         int w = x.processor(0, 3);
         int high = 2 * (w - 4);
-        int bytes = 0;
-        while (x.core(0, 6) != high && bytes < 99) {
-            bytes += x.run(0, 1);
-        }
+        int bytes = Calls.till(x, 0, () -> x.core(0, 6) == high);
         Calls.due("the HIGH one", x.core(0, 6), high);
         Calls.due("the LOW one is put aside", x.core(0, 9) + " " + x.core(0, 10) + " " + x.ready(0, 0), "0 1 " + (2 * w + 1));
         Calls.due("its I", x.word(0, w - 1), bytes);
@@ -393,10 +374,7 @@ public final class ScheduleTest {
             Calls.due("the HIGH one runs", x.core(0, 6) & 1, 0);
             Calls.due("it begins with nothing", registers(x), "0 0 0 0");
             Calls.due("the LOW one is the first", x.ready(0, 0), low);
-            int bytes = 0;
-            while (x.core(0, 6) != low && bytes < 99) {
-                bytes += x.run(0, 1);
-            }
+            Calls.till(x, 0, () -> x.core(0, 6) == low);
             Calls.due("as it was", registers(x), before);
             Calls.due("its bytes are counted anew", x.core(0, 12), 0);
             x.run(0, 3000);
@@ -415,41 +393,28 @@ public final class ScheduleTest {
         LinkedCores x = Calls.good("CHAN c:\nPRI PAR\n  INT x:\n  SEQ\n    keys ? x\n    screen ! x\n  PAR\n"
             + "    WHILE TRUE\n      SKIP\n    WHILE TRUE\n      SKIP");
         x.run(0, 200);
-        while (x.core(0, 0) == 0) {
-            x.run(0, 1);
-        }
+        Calls.till(x, 0, () -> x.core(0, 0) != 0);
         int low = x.core(0, 6);
         x.input(3);
-        while (x.core(0, 6) != low) {
-            x.run(0, 1);
-        }
+        Calls.till(x, 0, () -> x.core(0, 6) == low);
         Calls.due("kept", x.core(0, 0) != 0 ? 1 : 0, 1);
-        while (x.core(0, 6) == low) {
-            x.run(0, 1);
-        }
+        Calls.till(x, 0, () -> x.core(0, 6) != low);
         Calls.due("the other one begins with nothing", registers(x) + " " + x.core(0, 12), "0 0 0 0 0");
     }
 
     /** Words W - 3 that an earlier CALL left are cleared by STARTP, ENDP, and by waiting in IN or OUT. */
     private static void marks() {
-        String dirt = "PROC dirt()\n  [40]INT a:\n  SEQ i = 0 FOR 40\n    a[i] := 2\n:\n";
+        String dirt = "PROC dirt()\n  [20]INT a:\n  SEQ i = 0 FOR 20\n    a[i] := 2\n:\n";
         LinkedCores x = Calls.good(dirt + "PROC fork()\n  PAR\n    SKIP\n    SKIP\n:\nSEQ\n  dirt()\n  fork()\n");
         int w = x.processor(0, 3) - 7 - 4;
-        while (x.core(0, 4) != w) {
-            x.run(0, 1);
-        }
+        x.run(0, 400);
+        Calls.till(x, 0, () -> x.core(0, 4) == w);
         Calls.due("dirt", x.word(0, w - 3) + " " + x.word(0, w - 7) + " " + x.word(0, w - 11), "2 2 2");
-        while (x.core(0, 10) < 2) {
-            x.run(0, 1);
-        }
+        Calls.till(x, 0, () -> x.core(0, 10) >= 2);
         Calls.due("by STARTP", x.word(0, w - 3) + " " + x.word(0, w - 7) + " " + x.word(0, w - 11), "2 0 0");
-        while (x.core(0, 6) != 2 * (w - 8) + 1) {
-            x.run(0, 1);
-        }
+        Calls.till(x, 0, () -> x.core(0, 6) == 2 * (w - 8) + 1);
         Calls.due("not by the first ENDP", x.word(0, w - 3), 2);
-        while (x.core(0, 6) != 2 * w + 1) {
-            x.run(0, 1);
-        }
+        Calls.till(x, 0, () -> x.core(0, 6) == 2 * w + 1);
         Calls.due("by the last ENDP", x.word(0, w - 3), 0);
         for (String line : new String[] {"keys ? r", "l ! r", "m ? r", "c ! r", "c ? r"}) {
             String c = line.substring(0, line.indexOf(' '));

@@ -48,20 +48,20 @@ public final class SeenTest {
 
     /** Runs up to the instruction that begins at a byte, and over it. */
     private static String over(LinkedCores x, int at) {
-        int bytes = 0;
-        while (x.core(0, 3) != at && bytes < 999) {
-            bytes += x.run(0, 1);
-        }
+        Calls.till(x, 0, () -> x.core(0, 3) == at);
         x.run(0, x.instruction(0, at, 2));
         return stack(x);
     }
 
     private static int find(LinkedCores x, int function, int operand, int from) {
-        int at = from;
-        while (x.instruction(0, at, 0) != function || x.instruction(0, at, 1) != operand) {
-            at += x.instruction(0, at, 2);
+        int bytes = x.processor(0, 0);
+        for (int at = from; at < bytes; at += Math.max(1, x.instruction(0, at, 2))) {
+            if (x.instruction(0, at, 0) == function && x.instruction(0, at, 1) == operand) {
+                return at;
+            }
         }
-        return at;
+        Calls.due("function " + function + " " + operand + " is there", 0, 1);
+        return from;
     }
 
     /** What is taken leaves B in A, C in B, and C stays. */
@@ -114,9 +114,7 @@ public final class SeenTest {
         LinkedCores x = Calls.good("PAR i = 0 FOR 5\n  SKIP");
         int w = x.processor(0, 3);
         Calls.due("none", Calls.of(() -> x.ready(0, 0)), Calls.INDEX);
-        while (x.core(0, 10) < 5) {
-            x.run(0, 1);
-        }
+        Calls.till(x, 0, () -> x.core(0, 10) >= 5);
         for (int k = 0; k < 5; k++) {
             Calls.due("branch " + k, x.ready(0, k), 2 * (w - 4 - 4 * k) + 1);
         }
