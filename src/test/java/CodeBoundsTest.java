@@ -346,6 +346,16 @@ public final class CodeBoundsTest {
         need("INT x:\nscreen ! 1 + (x)", 5, 0);
         need("[2]INT x:\nscreen ! 1 + x[0]", 7, 0);
         need("[2]INT x:\nscreen ! x[0] + 1", 6, 0);
+        // what an E keeps, wherever the E stands
+        for (String line : new String[] {"a[1 + (1 - 1)] := 1", "a[0] := 1 + (1 - 1)", "c[1 + (1 - 1)] ! 1", "c[0] ! 1 + (1 - 1)", "c[1 + (1 - 1)] ? x", "c[0] ? a[1 + (1 - 1)]",
+            "WHILE 1 - (1 + 0)\n  SKIP", "IF\n  1 + (1 - 1)\n    SKIP", "p(1 + (1 - 1), x, c[0])", "p(1, a[1 + (1 - 1)], c[0])", "p(1, x, c[1 + (1 - 1)])"}) {
+            boolean call = line.charAt(0) == 'p';
+            need("PROC p(VAL INT v, INT r, CHAN c)\n  SKIP\n:\nINT x:\n[2]INT a:\n[2]CHAN c:\n" + line, 1 + 5 + 1 + 3 + (call ? 7 + 4 : 0), call ? 7 + 4 : 0);
+        }
+        need("INT x:\nSEQ i = 1 FOR 1 + (1 - 1)\n  SKIP", 1 + 1 + 2 + 1 + 3, 0);
+        for (String guard : new String[] {"1 + (1 - 1) & SKIP", "c[1 + (1 - 1)] ? x", "TRUE & c[1 + (1 - 1)] ? x", "c[0] ? a[1 + (1 - 1)]"}) {
+            need("INT x:\n[2]INT a:\n[2]CHAN c:\nALT\n  " + guard + "\n    SKIP", 1 + 5 + 2 + 1 + 3, 0);
+        }
         need("PAR\n  SKIP\n  SKIP", 4 + 3 + 4 + 4 + 3, 3 + 4 + 4);
         need("PAR\n" + "  SKIP\n".repeat(8), 4 + 3 + 8 * 4 + 3, 3 + 8 * 4);
         need("PAR i = 0 FOR 1\n  SKIP", 4 + 3 + 4 + 3, 3 + 4);

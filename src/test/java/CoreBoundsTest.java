@@ -18,6 +18,10 @@ public final class CoreBoundsTest {
         inputsInAlt();
         sendsInAlt();
         sendsInAltThatWaits();
+        registers();
+        registersAside();
+        neighbours();
+        wordsNearW();
         rows();
         nobodyRuns();
         ends();
@@ -339,6 +343,85 @@ public final class CoreBoundsTest {
         Calls.due("once", x.word(0, mark) + " " + x.core(0, 10) + " " + x.core(0, 6), "3 0 " + low);
         x.run(0, 5000);
         Calls.due("the first guard", Calls.outputs(x) + " " + x.outcome(), "2 2");
+    }
+
+    private static String stack(LinkedCores x) {
+        return x.core(0, 0) + " " + x.core(0, 1) + " " + x.core(0, 2) + " " + x.core(0, 5);
+    }
+
+    /** What operations leave; and who runs next begins with nothing. */
+    private static void registers() {
+        LinkedCores x = Calls.good("[3]CHAN c:\nSKIP");
+        x.run(0, 4);
+        Calls.due("ahead of FILL", stack(x), (x.processor(0, 3) + 1) + " 3 -1 0");
+        x.run(0, 1);
+        Calls.due("FILL", stack(x), "0 0 0 0");
+        LinkedCores y = Calls.good("PAR\n  SKIP\n  SKIP");
+        Calls.till(y, 0, () -> y.core(0, 10) == 1);
+        Calls.due("STARTP takes both", stack(y), "0 0 0 0");
+        LinkedCores z = Calls.good("INT x:\nkeys ? x");
+        z.input(5);
+        Calls.till(z, 0, () -> z.about(1) == 1);
+        Calls.due("IN takes both", stack(z), "0 0 0 0");
+        // a third register that isn't 0, and then a process that is gone
+        for (String last : new String[] {"STOP", "keys ? x", "x := 1 / 0", "ALT\n    FALSE & SKIP\n      SKIP", "SKIP"}) {
+            LinkedCores g = Calls.good("[3]INT a:\nINT x:\nSEQ\n  a[2] := 5\n  " + last);
+            Calls.till(g, 0, () -> g.core(0, 2) == 5);
+            g.run(0, 5000);
+            Calls.due("none runs", stack(g) + " " + g.core(0, 6), "0 0 0 0 -1");
+        }
+        LinkedCores n = Calls.good("[3]INT a:\nPAR\n  SEQ\n    a[2] := 5\n    STOP\n  SKIP");
+        int two = 2 * (n.processor(0, 3) - 8) + 1;
+        Calls.till(n, 0, () -> n.core(0, 6) == two);
+        Calls.due("the next one", stack(n) + " " + n.core(0, 12), "0 0 0 0 0");
+    }
+
+    /** A, B, C and O of a LOW one are kept over each byte at which a HIGH one may come. */
+    private static void registersAside() {
+        boolean full = false;
+        for (int bytes = 0; bytes < 24; bytes++) {
+            LinkedCores x = Calls.good("[64]INT a:\nINT x:\nPRI PAR\n  keys ? x\n  WHILE TRUE\n    a[40] := 500");
+            x.run(0, 120 + bytes);
+            int low = x.core(0, 6);
+            String before = stack(x) + " " + x.core(0, 3) + " " + x.core(0, 4);
+            full |= x.core(0, 2) == 500 && x.core(0, 5) == 0 && x.core(0, 1) == 40;
+            x.input(1);
+            Calls.due("HIGH begins with nothing", stack(x) + " " + (x.core(0, 6) & 1), "0 0 0 0 0");
+            Calls.due("its I", x.word(0, (low >> 1) - 1), Integer.parseInt(before.split(" ")[4]));
+            Calls.till(x, 0, () -> x.core(0, 6) == low);
+            Calls.due("as it was", stack(x) + " " + x.core(0, 3) + " " + x.core(0, 4), before);
+            x.run(0, 5000);
+            Calls.due("no harm", x.core(0, 7) + " " + x.word(0, x.processor(0, 3) + 41), "0 500");
+        }
+        Calls.due("all three were kept", full ? 1 : 0, 1);
+    }
+
+    /** FILL leaves the words beside alone: those of the frame around lie right above a branch's. */
+    private static void neighbours() {
+        for (int size : new int[] {1, 2, 64}) {
+            LinkedCores x = Calls.good("PAR\n  [" + size + "]CHAN c:\n  SKIP\n  [" + size + "]CHAN c:\n  SKIP");
+            x.run(0, 5000);
+            int w = x.processor(0, 3);
+            int one = w - 3 - 1 - size;
+            int two = one - 3 - 1 - size;
+            Calls.due("done", x.outcome(), 1);
+            Calls.due("the last element and the word above", x.word(0, one + size) + " " + x.word(0, one + size + 1), "-1 0");
+            Calls.due("of the second branch", x.word(0, two + size) + " " + x.word(0, two + size + 1), "-1 0");
+            Calls.due("word 0 and the first element", x.word(0, one) + " " + x.word(0, one + 1), "0 -1");
+        }
+    }
+
+    /** W - 3 alone tells of ALT, whatever the other words near W are. */
+    private static void wordsNearW() {
+        for (int v = 0; v <= 4; v++) {
+            String set = "    INT a, b, c, d, e, f:\n    SEQ\n      a := " + v + "\n      b := " + v + "\n      c := " + v + "\n      d := " + v + "\n      e := " + v + "\n      f := "
+                + v + "\n";
+            Calls.finish("CHAN ch:\nPAR\n  SEQ\n" + set + "      ch ? a\n      screen ! a + f\n  SEQ\n    ch ! 50\n    ch ! 60\n", 2, "" + (50 + v));
+            Calls.finish("CHAN ch:\nPAR\n  SEQ\n" + set + "      ALT\n        ch ? a\n          screen ! a + f\n  SEQ\n    ch ! 50\n    ch ! 60\n", 2, "" + (50 + v));
+            Calls.finish("CHAN ch:\nPAR\n  SEQ\n" + set + "      ch ! a + 50\n      ch ! b + 60\n  INT x:\n  SEQ\n    ch ? x\n    screen ! x\n    ch ? x\n    screen ! x\n", 1,
+                (50 + v) + " " + (60 + v));
+            Calls.finish("SEQ\n" + set.replace("\n    ", "\n  ").substring(2) + "    keys ? a\n    screen ! a\n    ALT\n      keys ? a\n        screen ! a", 1, "7 8", 7, 8);
+        }
     }
 
     /** The rows: HIGH ones first, each in order, and nothing beyond. */

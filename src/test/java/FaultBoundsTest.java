@@ -21,6 +21,7 @@ public final class FaultBoundsTest {
         words();
         wordsOfOthers();
         bytes();
+        bytesAgain();
         bytesOfOthers();
         order();
         Calls.close();
@@ -484,6 +485,24 @@ public final class FaultBoundsTest {
         Calls.due("the last byte", x.code(0, 5999), 255);
         Calls.refused("no byte behind", Calls.INDEX, () -> x.code(0, 6000));
         Calls.due("DONE", x.instruction(0, 5998, 1) + " " + x.instruction(0, 5998, 2), "31 2");
+    }
+
+    /** A program behind one that was too much, or behind many with ways, on the same object. */
+    private static void bytesAgain() {
+        LinkedCores x = new LinkedCores();
+        for (int k = 0; k < 4; k++) {
+            Calls.write(x, WIDE + "      y := 70000\n".repeat(14));
+            Calls.due("too much", x.compile() + " " + x.fault(0), "-1 6");
+            Calls.write(x, "screen ! 3");
+            Calls.due("fine", x.compile() + " " + x.fault(0) + " " + x.processor(0, 0), "1 0 6");
+        }
+        LinkedCores y = new LinkedCores();
+        for (int k = 0; k < 12; k++) {
+            Calls.write(y, "PAR i=0FOR 8\n  PAR i=0FOR 8\n    WHILE 0" + "AND(1".repeat(8) + ")".repeat(8) + "\n      SKIP");
+            Calls.due("fine", y.compile() + " " + y.fault(0), "1 0");
+        }
+        y.rounds(5000);
+        Calls.due("it runs", y.outcome(), 1);
     }
 
     /** Each processor has the PROCs' code and its own. */

@@ -407,6 +407,7 @@ public final class LinkBoundsTest {
             x.rounds(5000);
             Calls.due("and it goes the same way", x.outcome() + " " + Calls.outputs(x) + " " + x.about(1), "3 70000 0");
         }
+        beginsAside();
         LinkedCores x = Calls.good("INT x:\nSEQ\n  keys ? x\n  screen ! x");
         x.input(1);
         x.begin();
@@ -422,6 +423,37 @@ public final class LinkBoundsTest {
             none.begin();
             return 0;
         });
+    }
+
+    /** begin() while HIGH ones are ready and a LOW one is put aside with its registers: byte by byte as a new one. */
+    private static void beginsAside() {
+        String names = "[3]INT a:\nINT x:\n";
+        String two = names + "PRI PAR\n  SEQ\n    keys ? x\n    PAR\n      SKIP\n      SKIP\n  WHILE TRUE\n    a[2] := 5";
+        String one = names + "PAR\n  SKIP\n  PRI PAR\n    keys ? x\n    WHILE TRUE\n      a[2] := 5";
+        for (int bytes = 0; bytes < 20; bytes++) {
+            LinkedCores x = Calls.good(two);
+            x.run(0, 120 + bytes);
+            x.input(1);
+            Calls.due("HIGH", x.core(0, 6) & 1, 0);
+            Calls.till(x, 0, () -> x.core(0, 9) == 1 && x.core(0, 10) == 1);
+            beginsAgain(x, two);
+            LinkedCores y = Calls.good(one);
+            y.run(0, 120 + bytes);
+            y.input(1);
+            Calls.due("HIGH", (y.core(0, 6) & 1) + " " + y.core(0, 10), "0 1");
+            beginsAgain(y, one);
+        }
+    }
+
+    private static void beginsAgain(LinkedCores x, String text) {
+        LinkedCores fresh = Calls.good(text);
+        x.begin();
+        for (int k = 0; k < 70; k++) {
+            x.run(0, 1);
+            fresh.run(0, 1);
+            Calls.due("registers", x.core(0, 0) + " " + x.core(0, 2) + " " + x.core(0, 5), fresh.core(0, 0) + " " + fresh.core(0, 2) + " " + fresh.core(0, 5));
+        }
+        Calls.due("the same", Calls.seen(x), Calls.seen(fresh));
     }
 
     private static void linkParts() {

@@ -300,6 +300,12 @@ public final class TextBoundsTest {
         fine("INT abcdefghij, abcdefghi, bcdefghij:\nSEQ\n  abcdefghij := 1\n  screen ! abcdefghi + bcdefghij");
         Calls.finish("INT abcdefghia, abcdefghib, aaaaaaaaaa, a:\nSEQ\n  abcdefghia := 1\n  abcdefghib := 2\n  aaaaaaaaaa := 4\n  a := 8\n"
             + "  screen ! abcdefghia\n  screen ! abcdefghib\n  screen ! aaaaaaaaaa\n  screen ! a", 1, "1 2 4 8");
+        for (char c : "abcdefghijklmnopqrstuvwxyz".toCharArray()) {
+            fine("INT " + c + ":\n" + c + " := 1");
+        }
+        for (char c : "abcdefghijklmnopqrstuvwxyz0123456789.".toCharArray()) {
+            fine("INT q" + c + ", q:\nSEQ\n  q" + c + " := 1\n  q := 2");
+        }
         form("INT .a:\nSKIP", 0, 4);
         form("INT 1a:\nSKIP", 0, 4);
         form("INT Aa:\nSKIP", 0, 4);
@@ -323,6 +329,11 @@ public final class TextBoundsTest {
             form(plain.substring(0, last - 1) + plain.substring(last), line, place);
             form(plain.substring(0, last) + "S" + plain.substring(last), line, place);
             form(plain.substring(0, first) + "X" + plain.substring(first), line, place);
+        }
+        for (char c = 'A'; c <= 'Z'; c++) {
+            form("SKIP" + c, 0, 0);
+            form("SK" + c + "IP", 0, 0);
+            form("" + c, 0, 0);
         }
         form(X + "x := T", 1, 5);
         form(X + "x := TRUEFALSE", 1, 5);

@@ -54,15 +54,6 @@ public final class TextsTest {
             }
         }
         Calls.due("nothing changed", x.put(0), 8);
-        for (int k = 8; k < 3000; k += 4) {
-            x.put(0x20202020);
-        }
-        Calls.due("full", x.put(0), 3000);
-        Calls.due("one more", Calls.of(() -> x.put(32)), Calls.UNSUPPORTED);
-        Calls.due("a wrong sign is told first", Calls.of(() -> x.put(7)), Calls.ARGUMENT);
-        x.end(2998);
-        Calls.due("three more", Calls.of(() -> x.put(0x202020)), Calls.UNSUPPORTED);
-        Calls.due("two more", Calls.of(() -> x.put(0x2020)), 3000);
     }
 
     private static int shorten(LinkedCores x, int n) {

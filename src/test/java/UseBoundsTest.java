@@ -193,6 +193,13 @@ public final class UseBoundsTest {
         for (String pair : new String[] {"c, d", "e[0], e[1]", "c, e[0]", "screen, keys"}) {
             call("cc(" + pair + ")", true);
         }
+        judged(PROCS + "INT x, y:\n[4]INT a:\nCHAN c:\nPAR\n  vs(x, c)\n  x := 1", AHEAD + 3);
+        judged(PROCS + "INT x, y:\n[4]INT a:\nCHAN c:\nPAR\n  vs(a[2], c)\n  a[2] := 1", AHEAD + 3);
+        judged(PROCS + "INT x, y:\n[4]INT a:\nCHAN c:\nPAR\n  vs(a[2], c)\n  a[1] := 1", -1);
+        judged(PROCS + "INT x, y:\n[4]INT a:\nCHAN c:\nPAR\n  vs(a[x], c)\n  x := 1", AHEAD + 3);
+        judged(PROCS + "INT x, y:\n[4]INT a:\nCHAN c:\nPAR\n  vs(1 + x, c)\n  vs(x, screen)", -1);
+        judged(PROCS + "INT x, y:\n[4]INT a:\nPAR\n  wr(a[x])\n  x := 1", AHEAD + 2);
+        judged(PROCS + "INT x, y:\n[4]CHAN e:\nPAR\n  vs(1, e[x])\n  x := 1", AHEAD + 2);
         call("va(x, x, a)", true);
         call("va(a[0], x, a)", true);
         call("va(1, a[0], a)", true);
